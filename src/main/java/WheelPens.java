@@ -30,8 +30,8 @@ public final class WheelPens {
     private final MixReader mixReader = new MixReader();
     private final PenArms penArms = new PenArms();
     private final Sums sums = new Sums();
-    private final Orbits orbits = new Orbits(sums);
-    private final Told told = new Told(sums);
+    private final Orbits orbits = new Orbits();
+    private final Told told = new Told();
     private final Box box = new Box();
     private final Sheet[] sheets = new Sheet[SHEETS];
     private final Sheet drawing = new Sheet();
@@ -213,12 +213,12 @@ public final class WheelPens {
         if (what == 2) {
             return distances(s);
         }
-        orbits.forgetAll();
-        orbits.placeSheet(s, 0);
+        orbits.begin(sums);
+        orbits.placeSheet(sums, s, 0);
         if (what == 0) {
             return orbits.turningsOnto(0);
         }
-        orbits.placeMirrored(s, s.n);
+        orbits.placeMirrored(sums, s, s.n);
         return orbits.turningsOnto(s.n);
     }
 
@@ -245,16 +245,16 @@ public final class WheelPens {
             return UNLIKE_SHEETS;
         }
         sums.choose(from.n);
-        orbits.forgetAll();
-        orbits.placeSheet(onto, 0);
+        orbits.begin(sums);
+        orbits.placeSheet(sums, onto, 0);
         int known = orbits.known;
-        orbits.placeSheet(from, from.n);
+        orbits.placeSheet(sums, from, from.n);
         int plain = orbits.firstMatch();
         if (plain != NONE) {
             return plain;
         }
         orbits.known = known;
-        orbits.placeMirrored(from, from.n);
+        orbits.placeMirrored(sums, from, from.n);
         int mirrored = orbits.firstMatch();
         return mirrored == NONE ? NONE : MIRRORED + mirrored;
     }
@@ -268,8 +268,8 @@ public final class WheelPens {
             return s.period();
         }
         sums.choose(s.n);
-        orbits.forgetAll();
-        orbits.placeSheet(s, 0);
+        orbits.begin(sums);
+        orbits.placeSheet(sums, s, 0);
         return orbits.selves();
     }
 
@@ -311,7 +311,7 @@ public final class WheelPens {
         if (s == null) {
             return NONE;
         }
-        told.readBack(s);
+        told.readBack(sums, s);
         told.keep();
         return told.kept;
     }
@@ -337,12 +337,12 @@ public final class WheelPens {
         if (s == null) {
             return NONE;
         }
-        told.readBack(s);
-        orbits.forgetAll();
+        told.readBack(sums, s);
+        orbits.begin(sums);
         for (int f = 0; f < s.n; f++) {
-            orbits.place(f, told.rows, f * s.p);
+            orbits.place(sums, f, told.rows, f * s.p);
         }
-        return told.putRight(s, orbits);
+        return told.putRight(sums, s, orbits);
     }
 
     public int wrong() {
@@ -362,14 +362,14 @@ public final class WheelPens {
             return NONE;
         }
         sums.choose(s.n);
-        orbits.forgetAll();
-        orbits.placeSheet(s, 0);
+        orbits.begin(sums);
+        orbits.placeSheet(sums, s, 0);
         int known = orbits.known;
         int bits = 0;
         for (int pen = 0; pen < kitNow.pens; pen++) {
             drawInto(drawing, pen, s.n);
             orbits.known = known;
-            orbits.placeSheet(drawing, s.n);
+            orbits.placeSheet(sums, drawing, s.n);
             if (orbits.firstMatch() != NONE) {
                 bits |= 1 << pen;
             }
@@ -387,7 +387,7 @@ public final class WheelPens {
         if (s == null) {
             return NONE;
         }
-        told.readBack(s);
+        told.readBack(sums, s);
         if (!told.hasTwoPlain()) {
             return NONE;
         }
@@ -524,6 +524,9 @@ public final class WheelPens {
     }
 
     private static boolean likeRows(long[] a, int aAt, long[] b, int bAt, int size) {
+        if (aAt < 0 || bAt < 0 || aAt + size > a.length || bAt + size > b.length) {
+            return false;
+        }
         for (int i = 0; i < size; i++) {
             if (a[aAt + i] != b[bAt + i]) {
                 return false;
@@ -1143,6 +1146,10 @@ public final class WheelPens {
 
         void gather(Kit kit, int pen) {
             size = 0;
+            turnsToClose = 1;
+            if (pen < 0 || pen >= kit.pens) {
+                return;
+            }
             int wheel = kit.penWheel[pen];
             join(kit.spinUp[wheel], kit.spinLow[wheel], kit.penOut[pen]);
             for (int i = 0; i < KitReader.MOST_HEIGHT && wheel != NONE; i++) {
@@ -1183,7 +1190,6 @@ public final class WheelPens {
         }
 
         private void findWindings() {
-            turnsToClose = 1;
             for (int i = 0; i < size; i++) {
                 long divisor = commonDivisor(turnsToClose, low[i]);
                 turnsToClose *= divisor < 1 ? 1 : low[i] / divisor;
@@ -1407,6 +1413,22 @@ public final class WheelPens {
             }
         }
 
+        /** Adds z^power (0 to N - 1) times POINT k of a SHEET. */
+        void addTurned(Sheet s, int k, int power) {
+            int[] numbers = s.numbers;
+            int start = k * p;
+            if (k < 0 || start + p > numbers.length || power < 0 || power >= n) {
+                return;
+            }
+            int ahead = n - power < p ? n - power : p;
+            for (int i = 0; i < ahead; i++) {
+                sum[power + i] += numbers[start + i];
+            }
+            for (int i = ahead; i < p; i++) {
+                sum[power + i - n] += numbers[start + i];
+            }
+        }
+
         /** A reduced row times z. */
         void turnOnce(long[] row) {
             if (p < 1 || p > row.length) {
@@ -1449,7 +1471,8 @@ public final class WheelPens {
     private static final class Orbits {
         private static final int SLOTS = 2 * MOST_N;
 
-        private final Sums sums;
+        private int n;
+        private int p;
         private final long[] leasts = new long[SLOTS * MOST_P];
         private final long[] row = new long[MOST_P];
         private final long[] turned = new long[MOST_P];
@@ -1458,24 +1481,22 @@ public final class WheelPens {
         final int[] turns = new int[SLOTS];
         int known;
 
-        Orbits(Sums sums) {
-            this.sums = sums;
-        }
-
-        void forgetAll() {
+        void begin(Sums sums) {
+            n = sums.n;
+            p = sums.p;
             known = 0;
         }
 
-        void placeSheet(Sheet s, int slot) {
+        void placeSheet(Sums sums, Sheet s, int slot) {
             for (int k = 0; k < s.n; k++) {
                 for (int i = 0; i < s.p; i++) {
                     row[i] = s.number(k, i);
                 }
-                place(slot + k, row, 0);
+                place(sums, slot + k, row, 0);
             }
         }
 
-        void placeMirrored(Sheet s, int slot) {
+        void placeMirrored(Sums sums, Sheet s, int slot) {
             for (int k = 0; k < s.n; k++) {
                 sums.clear();
                 for (int i = 0; i < s.p; i++) {
@@ -1483,17 +1504,17 @@ public final class WheelPens {
                 }
                 sums.reduce();
                 sums.store(row, 0);
-                place(slot + k, row, 0);
+                place(sums, slot + k, row, 0);
             }
         }
 
         /** Puts into a slot the row of p numbers that begins at a place of an array. */
-        void place(int slot, long[] from, int at) {
-            if (slot < 0 || slot >= SLOTS || at < 0 || at + sums.p > from.length) {
+        void place(Sums sums, int slot, long[] from, int at) {
+            if (slot < 0 || slot >= SLOTS || at < 0 || at + p > from.length) {
                 return;
             }
             boolean empty = true;
-            for (int i = 0; i < sums.p; i++) {
+            for (int i = 0; i < p; i++) {
                 turned[i] = from[at + i];
                 least[i] = turned[i];
                 empty = empty && turned[i] == 0;
@@ -1501,19 +1522,19 @@ public final class WheelPens {
             kinds[slot] = 0;
             turns[slot] = 0;
             if (!empty) {
-                int turn = turnToLeast();
+                int turn = turnToLeast(sums);
                 kinds[slot] = kindOfLeast();
-                turns[slot] = wrap(-turn, sums.n);
+                turns[slot] = wrap(-turn, n);
             }
         }
 
-        private int turnToLeast() {
+        private int turnToLeast(Sums sums) {
             int best = 0;
-            for (int t = 1; t < sums.n; t++) {
+            for (int t = 1; t < n; t++) {
                 sums.turnOnce(turned);
                 if (turnedIsLess()) {
                     best = t;
-                    for (int i = 0; i < sums.p; i++) {
+                    for (int i = 0; i < p; i++) {
                         least[i] = turned[i];
                     }
                 }
@@ -1522,7 +1543,7 @@ public final class WheelPens {
         }
 
         private boolean turnedIsLess() {
-            for (int i = 0; i < sums.p; i++) {
+            for (int i = 0; i < p; i++) {
                 if (turned[i] != least[i]) {
                     return turned[i] < least[i];
                 }
@@ -1532,13 +1553,13 @@ public final class WheelPens {
 
         private int kindOfLeast() {
             for (int kind = 0; kind < known; kind++) {
-                if (likeRows(leasts, kind * sums.p, least, 0, sums.p)) {
+                if (likeRows(leasts, kind * p, least, 0, p)) {
                     return kind + 1;
                 }
             }
             if (known < SLOTS) {
-                for (int i = 0; i < sums.p; i++) {
-                    leasts[known * sums.p + i] = least[i];
+                for (int i = 0; i < p; i++) {
+                    leasts[known * p + i] = least[i];
                 }
                 known++;
             }
@@ -1548,15 +1569,15 @@ public final class WheelPens {
         /** Whether slot a is z^turn times slot b. */
         boolean isTurned(int a, int b, int turn) {
             return kinds[a] == kinds[b]
-                && (kinds[a] == 0 || turns[a] == wrap(turns[b] + turn, sums.n));
+                && (kinds[a] == 0 || turns[a] == wrap(turns[b] + turn, n));
         }
 
         /** With how many n the N slots from one on, times z^n, are the set of the first N slots. */
         int turningsOnto(int from) {
             int found = 0;
-            for (int turn = 0; turn < sums.n; turn++) {
+            for (int turn = 0; turn < n; turn++) {
                 boolean all = true;
-                for (int k = 0; k < sums.n && all; k++) {
+                for (int k = 0; k < n && all; k++) {
                     all = isAmongFirst(from + k, turn);
                 }
                 if (all) {
@@ -1567,7 +1588,7 @@ public final class WheelPens {
         }
 
         private boolean isAmongFirst(int slot, int turn) {
-            for (int k = 0; k < sums.n; k++) {
+            for (int k = 0; k < n; k++) {
                 if (isTurned(k, slot, turn)) {
                     return true;
                 }
@@ -1577,9 +1598,9 @@ public final class WheelPens {
 
         /** ONE, of the second N slots (a) with the first N (b): 100 n and m; else NONE. */
         int firstMatch() {
-            for (int turn = 0; turn < sums.n; turn++) {
-                for (int m = 0; m < sums.n; m++) {
-                    if (matches(sums.n, turn, m)) {
+            for (int turn = 0; turn < n; turn++) {
+                for (int m = 0; m < n; m++) {
+                    if (matches(n, turn, m)) {
                         return 100 * turn + m;
                     }
                 }
@@ -1589,8 +1610,8 @@ public final class WheelPens {
 
         int selves() {
             int found = 0;
-            for (int turn = 0; turn < sums.n; turn++) {
-                for (int m = 0; m < sums.n; m++) {
+            for (int turn = 0; turn < n; turn++) {
+                for (int m = 0; m < n; m++) {
                     if (matches(0, turn, m)) {
                         found++;
                     }
@@ -1600,8 +1621,8 @@ public final class WheelPens {
         }
 
         private boolean matches(int from, int turn, int m) {
-            for (int k = 0; k < sums.n; k++) {
-                int later = k + m < sums.n ? k + m : k + m - sums.n;
+            for (int k = 0; k < n; k++) {
+                int later = k + m < n ? k + m : k + m - n;
                 if (!isTurned(k, from + later, turn)) {
                     return false;
                 }
@@ -1613,7 +1634,6 @@ public final class WheelPens {
     /** The ARMS of a SHEET, told back from its POINTS; those of the latest back(); and what the
         latest right() put right. */
     private static final class Told {
-        private final Sums sums;
         int n;
         private int p;
         final long[] rows = new long[ROOM];
@@ -1627,21 +1647,14 @@ public final class WheelPens {
         private int most;
         private int mostArm;
 
-        Told(Sums sums) {
-            this.sums = sums;
-        }
-
-        void readBack(Sheet s) {
+        void readBack(Sums sums, Sheet s) {
             sums.choose(s.n);
             n = s.n;
             p = s.p;
             for (int f = 0; f < n; f++) {
                 sums.clear();
                 for (int k = 0; k < n; k++) {
-                    int power = wrap(-f * k, n);
-                    for (int i = 0; i < p; i++) {
-                        sums.add(power + i >= n ? power + i - n : power + i, s.number(k, i));
-                    }
+                    sums.addTurned(s, k, wrap(-f * k, n));
                 }
                 sums.reduce();
                 sums.store(rows, f);
@@ -1703,7 +1716,7 @@ public final class WheelPens {
          * the orbits: how many are there then. To change POINT k by D adds D z^(-f k) to ARM f, so
          * those ARMS go for which A(f) z^(f k) is -D: the most that are alike are looked for.
          */
-        int putRight(Sheet s, Orbits orbits) {
+        int putRight(Sums sums, Sheet s, Orbits orbits) {
             changed = NONE;
             int gone = 0;
             for (int f = 0; f < n; f++) {
@@ -1719,7 +1732,7 @@ public final class WheelPens {
                 }
             }
             if (changed != NONE) {
-                setInPlace(s, arm);
+                setInPlace(sums, s, arm);
             }
             return n - gone;
         }
@@ -1740,7 +1753,7 @@ public final class WheelPens {
             }
         }
 
-        private void setInPlace(Sheet s, int f) {
+        private void setInPlace(Sums sums, Sheet s, int f) {
             sums.clear();
             for (int i = 0; i < p; i++) {
                 sums.add(i, s.number(changed, i));
