@@ -92,6 +92,7 @@ public final class KitTest {
         whole(repeat("ring _ 9;", 4) + repeat("wheel x_ 3 on a;", 12) + repeat("pen y_ xa 1;", 8), 24);
         whole("ring r 9;wheel a 3 on r;wheel b 3 on a;wheel c 3 on b;wheel d 3 on c;", 5);
         whole("ring r 200;wheel a 50 on r at 99/1;wheel b 3 on a at - 99/1;", 3);
+        whole("ring r 198;wheel a 54 on r at 99/1;wheel b 3 in a at - 99/1;", 3);
         whole("ring r 99;wheel a 101 on r at 1/99;", 2);
     }
 
