@@ -6,15 +6,32 @@ import java.util.function.LongSupplier;
 public final class Due {
     private static int wrong;
     private static int seen;
+    private static String sentence = "";
 
     private Due() {
+    }
+
+    /** The sentence of the document that the answers behind this are about. */
+    static void says(String words) {
+        sentence = "[" + words + "] ";
+    }
+
+    private static void tellWrong(String words) {
+        wrong++;
+        System.out.println(sentence + words);
     }
 
     static void due(String call, long got, long want) {
         seen++;
         if (got != want) {
-            wrong++;
-            System.out.println(call + " answered " + got + ", due is " + want);
+            tellWrong(call + " answered " + got + ", due is " + want);
+        }
+    }
+
+    static void due(String call, String got, String want) {
+        seen++;
+        if (!got.equals(want)) {
+            tellWrong(call + " is " + got + ", due is " + want);
         }
     }
 
@@ -26,8 +43,7 @@ public final class Due {
         seen++;
         try {
             long got = it.getAsLong();
-            wrong++;
-            System.out.println(call + " answered " + got + ", due is a NoSuchElementException");
+            tellWrong(call + " answered " + got + ", due is a NoSuchElementException");
         } catch (NoSuchElementException e) {
             // as due
         }
@@ -88,12 +104,7 @@ public final class Due {
     }
 
     static void duePoint(WheelPens x, int sheet, int k, String want) {
-        seen++;
-        String got = point(x, sheet, k);
-        if (!got.equals(want)) {
-            wrong++;
-            System.out.println("POINT " + k + " of SHEET " + sheet + " is " + got + ", due is " + want);
-        }
+        due("POINT " + k + " of SHEET " + sheet, point(x, sheet, k), want);
     }
 
     static void report() {
