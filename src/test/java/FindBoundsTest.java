@@ -294,6 +294,9 @@ public final class FindBoundsTest {
         Due.due("one ARM", made(x, 0, 1, 96, 24), -1);
         x.draw(0, 2, 12);
         Due.due("three ARMS", made(x, 0, 1, 96, 24), -1);
+        Due.tell(x, 0, 3, 0, 0, -1, 1, 0, 0, 1);
+        Due.due("three ARMS side by side", x.back(0), 3);
+        Due.due("three ARMS side by side", made(x, 0, 1, 96, 24), -1);
         x.draw(0, 0, 8);
         Due.due("two ARMS", made(x, 0, 1, 96, 24), 1);
         Due.mix(x, 1, "a turn 1");

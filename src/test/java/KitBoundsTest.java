@@ -453,6 +453,20 @@ public final class KitBoundsTest {
         Due.due("no LINES", x.kit(), 0);
         Due.due("no PENS now", x.count(2), 0);
         Due.due("the SHEET is still there", x.about(0, 0), 8);
+        Due.says("Promise 4: the tape is the KIT now: nothing of the one ahead is left");
+        for (int i = 0; i < 4; i++) {
+            Due.due("20 LINES", Due.kit(x, "ring r 9;ring q 9;" + repeat("wheel w_ 3 in r;", 11) + repeat("pen p_ wk 1;", 7)), 20);
+            Due.due("RINGS", x.count(0), 2);
+            Due.due("WHEELS", x.count(1), 11);
+            Due.due("PENS", x.count(2), 7);
+            Due.kit(x, "ring r 9;wheel a 3 in r;pen p a 1;!");
+            Due.due("RINGS", x.count(0), 2);
+            Due.due("three LINES", Due.kit(x, "ring s 9;wheel a 3 in s;pen p a 1;"), 3);
+            Due.due("RINGS", x.count(0), 1);
+            Due.due("WHEELS", x.count(1), 1);
+            Due.due("PENS", x.count(2), 1);
+        }
+        Due.kit(x, "");
         Due.says("Promise 5: the FAULT of the latest kit() or mix() that read a text; 0 without one");
         Due.due("behind kit() without one", x.fault(), 0);
         String[] texts = {"!", "ring r 2;", "ring r 9;ring r 9;", repeat("ring _ 9;", 5), "ring r 3;wheel a 200 on r at 1/50;"};

@@ -304,6 +304,24 @@ public final class SheetBoundsTest {
         Due.due("into one that is none", x.wipe(7), true);
         Due.due("into one that is none", Due.mix(x, 7, "2 e"), -2000);
         Due.due("it is none still", x.about(7, 0), -1);
+        Due.says("Numbers of a SHEET: each one of each POINT");
+        for (int at = 0; at < 12; at++) {
+            int[] pairs = new int[12];
+            pairs[at] = at % 3 == 0 ? -100 : 100;
+            Due.tell(x, 0, pairs);
+            Due.mix(x, 0, "100 a");
+            Due.due("1000000 at " + at, Due.mix(x, 1, "100 a"), 1);
+            Due.due("1010000 at " + at, Due.mix(x, 1, "101 a"), -2000);
+            Due.tell(x, 2, 101, 0, 101, 0, 101, 0, 101, 0, 101, 0, 101, 0);
+            Due.due("1010000 at " + at, x.product(1, 0, 2), -2000);
+        }
+        int[] last = new int[118];
+        last[116] = 100;
+        Due.tell(x, 0, last);
+        Due.mix(x, 0, "100 a turn 57");
+        Due.due("1000000 z^57", Due.mix(x, 1, "100 a"), 1);
+        Due.due("the last number of the last POINT", x.point(1, 58, 57), 1000000);
+        Due.due("1010000 z^57", Due.mix(x, 1, "101 a"), -2000);
     }
 
     private static void noSheetForAMix() {
@@ -418,6 +436,17 @@ public final class SheetBoundsTest {
         dueSame(x, 0, 1, 1, 2);
         Due.tell(x, 0, 1, 0, 2, 0, 0, 0, 0, 0, 0, 0, 0, 0);
         dueSame(x, 0, 1, 1, 3);
+        Due.says("TURNINGS, MIRRORS: all POINTS, the first and the last one too");
+        Due.tell(x, 0, 3, 0, 1, 0, -1, 0, 0, 0);
+        dueSame(x, 0, 1, 1, 3);
+        Due.tell(x, 0, 1, 0, -1, 0, 0, 0, 3, 0);
+        dueSame(x, 0, 1, 1, 3);
+        Due.tell(x, 0, 3, 1, 1, 0, -1, 0, 0, 0);
+        dueSame(x, 0, 1, 0, 3);
+        Due.tell(x, 0, 1, 0, -1, 0, 0, 0, 3, 1);
+        dueSame(x, 0, 1, 0, 3);
+        Due.tell(x, 0, 1, 0, -1, 0, 0, 0, 0, 0);
+        dueSame(x, 0, 2, 2, 2);
         Due.says("DISTANCES: POINT times its MIRRORED one: how many that differ");
         Due.tell(x, 0, 1, 0, 0, 1, -1, 0);
         Due.due("all of 1", x.same(0, 2), 1);
