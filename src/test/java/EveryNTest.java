@@ -123,6 +123,15 @@ public final class EveryNTest {
             }
         }
         for (int s = 0; s < 3; s++) {
+            Due.tell(x, 3 + s, new int[2 * NS[s]]);
+        }
+        for (int round = 0; round < ROUNDS; round++) {
+            for (int s = 0; s < 3; s++) {
+                Due.due("SELVES of noughts", x.again(3 + s, 1), NS[s] * NS[s]);
+                Due.due("PERIOD of noughts", x.again(3 + s, 0), 1);
+            }
+        }
+        for (int s = 0; s < 3; s++) {
             int last = NS[s] - 1;
             Due.mix(x, 3 + s, (char) ('a' + s) + " turn " + last + " from " + last);
             Due.due("plain one of " + NS[s], x.one(s, 3 + s), 101 * last);

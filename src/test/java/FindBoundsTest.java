@@ -143,6 +143,12 @@ public final class FindBoundsTest {
         dueRight(x, 0, 6, 0);
         Due.due("1 + 2 z less the sum of all, 35 + 23 z", x.rightAt(0), -34);
         Due.due("1 + 2 z less the sum of all", x.rightAt(1), -21);
+        Due.says("the least such f, whatever f the right() ahead of it came to");
+        Due.tell(x, 0, 9, 9, 1, 2, 1, 2, 1, 2, 1, 2);
+        dueRight(x, 0, 1, 0);
+        Due.tell(x, 0, 1, 2, 3, 4, 5, 6, 8, 8, 9, 1, 2, 2, 7, 0);
+        dueRight(x, 0, 6, 0);
+        Due.due("rightAt(0)", x.rightAt(0), -34);
         int[] last = new int[118];
         last[116] = 100;
         last[117] = -100;
@@ -318,6 +324,9 @@ public final class FindBoundsTest {
         Due.says("one 'in' it has fewer TEETH");
         x.draw(0, 0, 8);
         Due.due("a wheel of more TEETH: 24 - 96 is no length", made(x, 0, 1, 24, 96), 0);
+        Due.tell(x, 0, 6, 0, 4, 0, 6, 0, 4, 0);
+        Due.due("0 and 2", x.back(0), 2);
+        Due.due("as many TEETH: its ARM would be none", made(x, 0, 1, 24, 24), 0);
         Due.kit(x, "ring r 4;wheel a 3 in r;pen p a 5;");
         x.draw(0, 0, 7);
         Due.due("one TOOTH fewer", made(x, 0, 3, 4, 3, 5, 3, 4), 1);

@@ -531,6 +531,18 @@ public final class KitBoundsTest {
         Due.dueThrow("arm(0, 0, 0)", () -> x.arm(0, 0, 0));
     }
 
+    private static void manyCalls() {
+        Due.says("An object is used for at most 512 calls");
+        WheelPens x = new WheelPens();
+        Due.kit(x, PLAIN);
+        int calls = 5;
+        for (; calls < 510; calls++) {
+            x.draw(calls % 8, 0, 3 + calls % 58);
+        }
+        Due.due("the 511th call", x.draw(7, 0, 8), 8);
+        Due.due("the 512th call", x.point(7, 1, 1), 48);
+    }
+
     private static void risingWindings() {
         Due.says("Promise 9: by rising WINDINGS");
         WheelPens x = whole("ring r 94;wheel a 3 on r at 1/97;wheel b 80 on a at - 1/83;wheel c 9 on b at 1/89;"
@@ -558,6 +570,7 @@ public final class KitBoundsTest {
         kitAndFault();
         noSuchOnes();
         risingWindings();
+        manyCalls();
         Due.report();
     }
 }

@@ -5,6 +5,7 @@ import java.util.function.ToLongFunction;
     does not grow with the calls. */
 public final class RoomTest {
     private static final int CALLS = 480;
+    private static final int TRIES = 3;
     /** Far below 7.3 million elements, and some four times what an object with all its SHEETS takes. */
     private static final long MOST_BYTES = 1000000;
     private static final long ONE_ROW = 20000;
@@ -23,17 +24,23 @@ public final class RoomTest {
         }
     }
 
+    /** The least of some tries: what the machine makes for itself at a first call is not the class's. */
     private static void little(String name, ToLongFunction<WheelPens> call) {
-        long ahead = made();
-        WheelPens x = new WheelPens();
-        fill(x);
-        long filled = made();
-        for (int i = 0; i < CALLS; i++) {
-            sum += call.applyAsLong(x);
+        long leastObject = Long.MAX_VALUE;
+        long leastCalls = Long.MAX_VALUE;
+        for (int i = 0; i < TRIES; i++) {
+            long ahead = made();
+            WheelPens x = new WheelPens();
+            fill(x);
+            long filled = made();
+            for (int k = 0; k < CALLS; k++) {
+                sum += call.applyAsLong(x);
+            }
+            leastCalls = Math.min(leastCalls, made() - filled);
+            leastObject = Math.min(leastObject, filled - ahead);
         }
-        long behind = made();
-        Due.due("a new object and its SHEETS are small", filled - ahead < MOST_BYTES, true);
-        Due.due(CALLS + " calls of " + name + " make one row at most", behind - filled < ONE_ROW, true);
+        Due.due("a new object and its SHEETS are small", leastObject < MOST_BYTES, true);
+        Due.due(CALLS + " calls of " + name + " make one row at most", leastCalls < ONE_ROW, true);
     }
 
     public static void main(String[] args) {

@@ -208,6 +208,8 @@ public final class SheetBoundsTest {
         duePoints(mixed("a from 5", 1), 6, "1 0 0 0", "2 0 0 0", "3 0 0 0", "4 5 0 0", "0 0 0 0");
         duePoints(mixed("a from 6", 1), 6, "2 0 0 0", "3 0 0 0", "4 5 0 0", "0 0 0 0", "1 0 0 0");
         duePoints(mixed("a from 999", 1), 6, "0 0 0 0", "1 0 0 0", "2 0 0 0", "3 0 0 0", "4 5 0 0");
+        duePoints(mixed("a from 1 from 3", 1), 6, "0 0 0 0", "1 0 0 0", "2 0 0 0", "3 0 0 0", "4 5 0 0");
+        duePoints(mixed("a from 1 back from 3", 1), 6, "4 5 0 0", "3 0 0 0", "2 0 0 0", "1 0 0 0", "0 0 0 0");
         Due.says("back: POINT k is that of - k (back they come round)");
         duePoints(mixed("a back", 1), 6, "1 0 0 0", "0 0 0 0", "4 5 0 0", "3 0 0 0", "2 0 0 0");
         duePoints(mixed("a back back", 1), 6, "1 0 0 0", "2 0 0 0", "3 0 0 0", "4 5 0 0", "0 0 0 0");
@@ -486,6 +488,14 @@ public final class SheetBoundsTest {
         Due.mix(x, 1, "100 b");
         Due.mix(x, 1, "100 b");
         Due.due("four times 2000000000000 i", x.area(1, 1), 8000000000000L);
+        Due.says("AREA, SHARED of a SHEET that was greater: nothing of it is left");
+        Due.tell(x, 4, 7, 9, 7, 9, 7, 9, 7, 9, 7, 9, 7, 9, 7, 9, 7, 9);
+        Due.tell(x, 5, 7, 9, 7, 9, 7, 9, 7, 9, 7, 9, 7, 9, 7, 9, 7, 9);
+        Due.tell(x, 4, 0, 1, 0, 1, 0, 0, 1, 0);
+        Due.tell(x, 5, 0, 1, 0, 2, 0, 3, 4, 0);
+        Due.due("from the last to the first", x.area(4, 1), 2);
+        Due.due("i alone", x.shared(4, 5), 1);
+        Due.due("i alone", x.shared(5, 4), 1);
         Due.says("Promise 18: NoSuchElementException: no such ones");
         Due.dueThrow("area(0, 2)", () -> x.area(0, 2));
         Due.dueThrow("area(0, -1)", () -> x.area(0, -1));
