@@ -35,6 +35,16 @@ public final class Due {
         }
     }
 
+    /** As above, for a call that may throw where it must not: that is told as a wrong answer, too. */
+    static void due(String call, LongSupplier it, long want) {
+        try {
+            due(call, it.getAsLong(), want);
+        } catch (NoSuchElementException e) {
+            seen++;
+            tellWrong(call + " threw a NoSuchElementException, due is " + want);
+        }
+    }
+
     static void due(String call, boolean got, boolean want) {
         due(call, got ? 1 : 0, want ? 1 : 0);
     }

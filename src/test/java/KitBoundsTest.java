@@ -25,8 +25,8 @@ public final class KitBoundsTest {
         Due.due("RINGS behind " + text, x.count(0), 1);
         Due.due("WHEELS behind " + text, x.count(1), 1);
         Due.due("PENS behind " + text, x.count(2), 1);
-        Due.due("SPIN behind " + text, x.spin(0, 0), -3);
-        Due.due("ARM behind " + text, x.arm(0, 0, 1), 24);
+        Due.due("SPIN behind " + text, () -> x.spin(0, 0), -3);
+        Due.due("ARM behind " + text, () -> x.arm(0, 0, 1), 24);
         Due.due("the tape behind " + text, x.count(4), 0);
     }
 
@@ -543,6 +543,38 @@ public final class KitBoundsTest {
         Due.due("the 512th call", x.point(7, 1, 1), 48);
     }
 
+    /** Of SPINS that are not whole: if a speed without an ARM counted, these PENS would CLOSE after 3. */
+    private static void speedsWithoutArms() {
+        Due.says("those of length 0 are none; CLOSES: with which all its speeds are whole");
+        WheelPens x = whole("ring r 10;wheel a 3 in r;wheel b 5 on a at - 7/3;pen p a 0;pen q a 1;pen s b - 8;pen t b - 7;"
+            + "pen u b 0;", 8);
+        Due.due("the SPIN is -7/3", x.spin(0, 1), 3);
+        Due.due("the SPIN is -7/3", x.spin(1, 1), 3);
+        duePen(x, 0, 1, 0, 1, 7);
+        duePen(x, 1, 3, 10, -7, 1, 3, 7);
+        Due.says("ARMS of one speed are one (their lengths together): 8 - 8 is none, 8 - 7 and 8 are there");
+        duePen(x, 2, 1, 0, 1, 7);
+        duePen(x, 3, 3, 10, -7, 1, 3, 7);
+        duePen(x, 4, 3, 10, -7, 8, 3, 7);
+        Due.says("WINDINGS: speeds times C, in a drawing too");
+        Due.due("draw(0, 0, 7)", x.draw(0, 0, 7), 7);
+        Due.duePoint(x, 0, 1, "0 7 0 0 0 0");
+        Due.due("draw(1, 3, 8)", x.draw(1, 3, 8), 8);
+        Due.duePoint(x, 1, 1, "0 1 0 7");
+    }
+
+    /** A PEN CLOSES after so many turns, has these LOBES, and these ARMS, WINDING and length each. */
+    private static void duePen(WheelPens x, int pen, int closes, int lobes, int... arms) {
+        Due.due("closes(" + pen + ")", x.closes(pen), closes);
+        Due.due("lobes(" + pen + ")", x.lobes(pen), lobes);
+        Due.due("arms(" + pen + ")", x.arms(pen), arms.length / 2);
+        for (int i = 0; i < arms.length; i++) {
+            int arm = i / 2;
+            int what = i % 2;
+            Due.due("arm(" + pen + ", " + arm + ", " + what + ")", () -> x.arm(pen, arm, what), arms[i]);
+        }
+    }
+
     private static void risingWindings() {
         Due.says("Promise 9: by rising WINDINGS");
         WheelPens x = whole("ring r 94;wheel a 3 on r at 1/97;wheel b 80 on a at - 1/83;wheel c 9 on b at 1/89;"
@@ -569,6 +601,7 @@ public final class KitBoundsTest {
         speeds();
         kitAndFault();
         noSuchOnes();
+        speedsWithoutArms();
         risingWindings();
         manyCalls();
         Due.report();
